@@ -424,9 +424,9 @@ public final class EndMeters {
         }
     }
 
-    /** Some SETS, all with the same number of members, by rising numbers. */
+    /** Some SETS of ten at most, none of which lies within another one. */
     private static final class SetList {
-        /** No more than 252 sets of the same size can be made of ten. */
+        /** There are no more than these, the SETS of five of ten (Sperner). */
         static final int MOST_SETS = 252;
 
         final int[] sets = new int[MOST_SETS];
@@ -685,8 +685,7 @@ public final class EndMeters {
     private static final class Liars {
         final SetList found = new SetList();
         /** WAYS that by themselves have no SOLUTION: a LYING SET holds one of each such SET. */
-        final int[] clashes = new int[1 << MOST_WAYS];
-        int clashCount;
+        final SetList clashes = new SetList();
         boolean upToDate;
 
         void forget() {
@@ -698,7 +697,7 @@ public final class EndMeters {
                 return found;
             }
             found.empty();
-            clashCount = 0;
+            clashes.empty();
             int most = Integer.bitCount(net.onWays);
             for (int size = 0; size <= most && found.size == 0; size++) {
                 findOfSize(size, net, delays);
@@ -716,33 +715,38 @@ public final class EndMeters {
                 if (delays.solve(net, net.onWays & ~left)) {
                     found.add(left);
                 } else {
-                    addClash(delays.clash);
+                    clashes.add(leastClash(delays.clash, net, delays));
                 }
             }
         }
 
         private boolean breaksAllClashes(int left) {
-            for (int i = 0; i < clashCount; i++) {
-                if ((clashes[i] & left) == 0) {
+            for (int i = 0; i < clashes.size; i++) {
+                if ((clashes.sets[i] & left) == 0) {
                     return false;
                 }
             }
             return true;
         }
 
-        private void addClash(int ways) {
-            if (clashCount < clashes.length) {
-                clashes[clashCount] = ways;
-                clashCount++;
+        /** A clash that no WAY can be taken from spares more trials than a great one. */
+        private static int leastClash(int ways, Net net, Delays delays) {
+            int clash = ways;
+            for (int way = 0; way < net.wayCount; way++) {
+                int others = withBit(clash, way, false);
+                if (others != clash && !delays.solve(net, others)) {
+                    clash = delays.clash;
+                }
             }
+            return clash;
         }
     }
 
     /**
      * What is put together of what: rows of zeros and ones for the WAYS that are ON, the OFFERS and
      * each LINE alone. Taking a row clears a column of it in the rows that are not taken yet; one that
-     * has become empty is put together of those taken. There is a table for each number of OFFERS taken.
-     * Cross products are divided by the head before, which leaves no rest (Bareiss), and are
+     * has become empty is put together of those taken. There is a table for each number (the depth) of
+     * OFFERS taken. Cross products are divided by the head before, which leaves no rest (Bareiss), and are
      * determinants of ten rows of zeros and ones at most: an int holds them.
      */
     private static final class Spans {
@@ -751,13 +755,14 @@ public final class EndMeters {
         static final int ROWS = MOST_WAYS + MOST_OFFERS + MOST_LINES;
 
         final int[] cells = new int[(MOST_OFFERS + 1) * ROWS * MOST_LINES];
+        /** The SET of OFFERS that the table of a depth is for; NONE: it is for none. */
+        final int[] takenAt = new int[MOST_OFFERS + 1];
+        /** The head that was cleared with last, up to the table of a depth. */
+        final int[] headAt = new int[MOST_OFFERS + 1];
         int lineCount;
         int rank;
-        int headOfWays;
         /** The LINES that THE ADVICE is asked for. */
         int asked;
-        int best;
-        int bestSize;
 
         int rankOfWays(Net net) {
             takeWays(net);
@@ -775,13 +780,22 @@ public final class EndMeters {
             return lines;
         }
 
+        /**
+         * Goes through the SETS of OFFERS by rising numbers, so that of several with as few the first
+         * one stays.
+         */
         int fewestOffers(Net net, int set) {
             takeWays(net);
             asked = set;
-            best = NONE;
-            bestSize = MOST_OFFERS + 1;
-            if (allOffersDo(net.offerCount)) {
-                search(0, net.offerCount, 0, headOfWays);
+            int best = NONE;
+            int fewest = MOST_OFFERS + 1;
+            int sets = allOffersDo(net.offerCount) ? 1 << net.offerCount : 0;
+            for (int taken = 0; taken < sets; taken++) {
+                int depth = Integer.bitCount(taken);
+                if (depth < fewest && takeSet(taken) && allAskedAreEmpty(depth)) {
+                    best = taken;
+                    fewest = depth;
+                }
             }
             return best;
         }
@@ -793,7 +807,7 @@ public final class EndMeters {
         private void takeWays(Net net) {
             load(net);
             rank = 0;
-            headOfWays = 1;
+            headAt[0] = 1;
             for (int way = 0; way < net.wayCount; way++) {
                 int column = firstFilledColumn(0, way);
                 if (column != NONE) {
@@ -836,25 +850,44 @@ public final class EndMeters {
         private void takeWay(int way, int column) {
             int headStart = startOf(0, way);
             for (int row = way + 1; row < FIRST_LINE + lineCount; row++) {
-                clearColumn(startOf(0, row), startOf(0, row), headStart, column, headOfWays);
+                clearColumn(startOf(0, row), startOf(0, row), headStart, column, headAt[0]);
             }
-            headOfWays = cells[headStart + column];
+            headAt[0] = cells[headStart + column];
             rank++;
         }
 
-        /** Into the next table go only the rows that are still asked for: the OFFERS below and the LINES asked. */
-        private int takeOffer(int depth, int number, int column, int headBefore) {
-            int headStart = startOf(depth, FIRST_OFFER + number);
-            for (int row = FIRST_OFFER; row < FIRST_OFFER + number; row++) {
-                clearColumn(startOf(depth, row), startOf(depth + 1, row), headStart, column, headBefore);
+        /**
+         * Makes the table of a SET from that of the SET without its first OFFER, which came earlier.
+         * There is none, if an OFFER is put together of others: such a SET is never the least one.
+         */
+        private boolean takeSet(int taken) {
+            if (taken == 0) {
+                return true;
             }
-            for (int line = 0; line < lineCount; line++) {
-                int row = FIRST_LINE + line;
-                if (bitOf(asked, line) == 1) {
-                    clearColumn(startOf(depth, row), startOf(depth + 1, row), headStart, column, headBefore);
+            int depth = Integer.bitCount(taken) - 1;
+            if (takenAt[depth] != (taken & taken - 1)) {
+                return false;
+            }
+            int firstOffer = Integer.bitCount(taken - 1 & ~taken);
+            return takeOffer(depth, firstOffer);
+        }
+
+        /** Into the next table go only rows that are still asked for: those of OFFERS below, of LINES asked. */
+        private boolean takeOffer(int depth, int number) {
+            int column = depth < MOST_OFFERS ? firstFilledColumn(depth, FIRST_OFFER + number) : NONE;
+            if (column == NONE) {
+                return false;
+            }
+            int headStart = startOf(depth, FIRST_OFFER + number);
+            for (int row = FIRST_OFFER; row < FIRST_LINE + lineCount; row++) {
+                boolean matters = row < FIRST_LINE ? row < FIRST_OFFER + number : bitOf(asked, row - FIRST_LINE) == 1;
+                if (matters) {
+                    clearColumn(startOf(depth, row), startOf(depth + 1, row), headStart, column, headAt[depth]);
                 }
             }
-            return cells[headStart + column];
+            headAt[depth + 1] = cells[headStart + column];
+            takenAt[depth + 1] = takenAt[depth] | 1 << number;
+            return true;
         }
 
         private void clearColumn(int from, int to, int headStart, int column, int headBefore) {
@@ -880,35 +913,15 @@ public final class EndMeters {
 
         /** Spares the search where it would find nothing. */
         private boolean allOffersDo(int offers) {
+            Arrays.fill(takenAt, NONE);
+            takenAt[0] = 0;
             int depth = 0;
-            int head = headOfWays;
-            for (int number = offers - 1; number >= 0 && depth < MOST_OFFERS; number--) {
-                int column = firstFilledColumn(depth, FIRST_OFFER + number);
-                if (column != NONE) {
-                    head = takeOffer(depth, number, column, head);
+            for (int number = offers - 1; number >= 0; number--) {
+                if (takeOffer(depth, number)) {
                     depth++;
                 }
             }
             return allAskedAreEmpty(depth);
-        }
-
-        /**
-         * Goes through the SETS of OFFERS by rising numbers, so that of several with as few the first
-         * one stays. An OFFER that is put together of those taken can't be in a least SET.
-         */
-        private void search(int depth, int below, int taken, int headBefore) {
-            if (allAskedAreEmpty(depth)) {
-                best = taken;
-                bestSize = depth;
-                return;
-            }
-            for (int number = 0; number < below && depth < MOST_OFFERS && depth + 1 < bestSize; number++) {
-                int column = firstFilledColumn(depth, FIRST_OFFER + number);
-                if (column != NONE) {
-                    int head = takeOffer(depth, number, column, headBefore);
-                    search(depth + 1, number, taken | 1 << number, head);
-                }
-            }
         }
     }
 

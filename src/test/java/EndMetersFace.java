@@ -1,0 +1,138 @@
+import java.lang.reflect.Constructor;
+import java.lang.reflect.Field;
+import java.lang.reflect.Method;
+import java.lang.reflect.Modifier;
+import java.util.Set;
+import java.util.TreeSet;
+
+/** The face is the document's and nothing else, and calls make no objects: a run's room is small. */
+public final class EndMetersFace {
+    private static final String[] FACE = {
+        "int lines(int)", "int way(int,int)", "int sum(int,int)", "int over(int,int)", "int on(int,boolean)",
+        "int bad(int,boolean)", "int back()", "int told(int,int)", "int count(int)", "int fits()",
+        "long bound(int,int,int)", "long shown(int,int,int,int)", "int settled(int)", "int known(int)",
+        "int group(int)", "int lying(int)", "int offer(int)", "int offered(int,int)", "int advice(int)",
+        "int sick(int)", "long pair(int,int,int,int,int,int)", "EndMeters()",
+        "NONE=-1", "UNKNOWN=-101", "OUTSIDE=-102", "STATE=-103", "FULL=-104", "ENDLESS=-105"};
+    private static int wrong = 0;
+
+    public static void main(String[] args) throws Exception {
+        checkFace();
+        checkRoom();
+        System.out.println(wrong == 0 ? "the face is the document's, calls make no objects" : wrong + " faults");
+        if (wrong != 0) {
+            System.exit(1);
+        }
+    }
+
+    private static void must(boolean holds, String what) {
+        if (!holds) {
+            wrong++;
+            System.out.println("not so: " + what);
+        }
+    }
+
+    private static void checkFace() throws Exception {
+        must(Modifier.isPublic(EndMeters.class.getModifiers()), "EndMeters is public");
+        must(Modifier.isFinal(EndMeters.class.getModifiers()), "EndMeters is final");
+        Set<String> found = new TreeSet<>();
+        Set<String> publicNames = new TreeSet<>();
+        for (Method method : EndMeters.class.getDeclaredMethods()) {
+            if (!Modifier.isPrivate(method.getModifiers()) && !method.isSynthetic()) {
+                must(method.getModifiers() == Modifier.PUBLIC, method + " is just public");
+                found.add(method.getReturnType() + " " + method.getName() + types(method.getParameterTypes()));
+                publicNames.add(method.getName());
+            }
+        }
+        for (Constructor<?> made : EndMeters.class.getDeclaredConstructors()) {
+            if (!Modifier.isPrivate(made.getModifiers())) {
+                must(made.getModifiers() == Modifier.PUBLIC, made + " is just public");
+                found.add("EndMeters" + types(made.getParameterTypes()));
+            }
+        }
+        for (Field field : EndMeters.class.getDeclaredFields()) {
+            if (!Modifier.isPrivate(field.getModifiers())) {
+                must(field.getModifiers() == (Modifier.PUBLIC | Modifier.STATIC | Modifier.FINAL), field + " is a constant");
+                must(field.getType() == int.class, field + " is an int");
+                found.add(field.getName() + "=" + field.get(null));
+            }
+        }
+        must(found.equals(new TreeSet<>(Set.of(FACE))), "the face is " + found);
+        checkHiddenNames(publicNames);
+    }
+
+    private static void checkHiddenNames(Set<String> publicNames) {
+        for (Method method : EndMeters.class.getDeclaredMethods()) {
+            boolean hidden = Modifier.isPrivate(method.getModifiers());
+            must(!hidden || !publicNames.contains(method.getName()), "a name of its own: " + method);
+        }
+        for (Class<?> inside : EndMeters.class.getDeclaredClasses()) {
+            must(Modifier.isStatic(inside.getModifiers()), inside + " is static");
+            for (Method method : inside.getDeclaredMethods()) {
+                must(!publicNames.contains(method.getName()), "a name of its own: " + method);
+            }
+        }
+    }
+
+    private static String types(Class<?>[] types) {
+        StringBuilder text = new StringBuilder("(");
+        for (int i = 0; i < types.length; i++) {
+            text.append(i == 0 ? "" : ",").append(types[i]);
+        }
+        return text.append(")").toString();
+    }
+
+    /** Looks at what the thread has been given since it began, if this machine tells it. */
+    private static void checkRoom() {
+        if (!(java.lang.management.ManagementFactory.getThreadMXBean() instanceof com.sun.management.ThreadMXBean bean)
+                || !bean.isThreadAllocatedMemorySupported()) {
+            return;
+        }
+        EndMeters x = new EndMeters();
+        useAll(x);
+        long before = bean.getCurrentThreadAllocatedBytes();
+        long empty = bean.getCurrentThreadAllocatedBytes() - before;
+        before = bean.getCurrentThreadAllocatedBytes();
+        for (int i = 0; i < 20; i++) {
+            useAll(x);
+        }
+        long made = bean.getCurrentThreadAllocatedBytes() - before - empty;
+        must(made < 1000, "calls make no objects, but " + made + " bytes were made");
+        before = bean.getCurrentThreadAllocatedBytes();
+        x = new EndMeters();
+        made = bean.getCurrentThreadAllocatedBytes() - before - empty;
+        must(made < 30000, "an object is small, but " + made + " bytes were made");
+    }
+
+    private static void useAll(EndMeters x) {
+        x.lines(10);
+        for (int i = 0; i < 10; i++) {
+            x.way(1 + (i * 397 + 101) % 1023, i * 7 % 5);
+            x.bad(i, i % 3 == 0);
+            x.offer(1 + (i * 211 + 7) % 1023);
+        }
+        x.sum(0, 3);
+        x.over(1, 6);
+        x.lying(-1);
+        x.on(9, false);
+        x.on(8, false);
+        x.offered(0, 1);
+        for (int what = 0; what < 9; what++) {
+            x.count(what);
+            x.told(what, what % 4);
+        }
+        x.advice(1023);
+        x.lying(-1);
+        x.sick(-1);
+        x.fits();
+        for (int i = 0; i < 6; i++) {
+            x.back();
+        }
+        x.bound(3, 1, 0);
+        x.shown(3, 0, 9, 1);
+        x.settled(1);
+        x.known(1);
+        x.group(1);
+        x.pair(10, 9, 8, 7, 0, 0);
+    }
+}
