@@ -88,18 +88,21 @@ public final class EndMetersFace {
                 || !bean.isThreadAllocatedMemorySupported()) {
             return;
         }
-        EndMeters x = new EndMeters();
-        useAll(x);
+        EndMeters[] some = new EndMeters[20];
+        for (int i = 0; i < some.length; i++) {
+            some[i] = new EndMeters();
+            useAll(some[i]);
+        }
         long before = bean.getCurrentThreadAllocatedBytes();
         long empty = bean.getCurrentThreadAllocatedBytes() - before;
         before = bean.getCurrentThreadAllocatedBytes();
-        for (int i = 0; i < 20; i++) {
+        for (EndMeters x : some) {
             useAll(x);
         }
         long made = bean.getCurrentThreadAllocatedBytes() - before - empty;
         must(made < 1000, "calls make no objects, but " + made + " bytes were made");
         before = bean.getCurrentThreadAllocatedBytes();
-        x = new EndMeters();
+        some[0] = new EndMeters();
         made = bean.getCurrentThreadAllocatedBytes() - before - empty;
         must(made < 30000, "an object is small, but " + made + " bytes were made");
     }

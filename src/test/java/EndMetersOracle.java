@@ -7,6 +7,8 @@ import java.util.List;
  * and of LINES. The numbers come from a fixed seed, so every run is the same.
  */
 public final class EndMetersOracle {
+    /** "An object is used for at most 512 calls": the longest step asks for all of 252 SETS, and three times more. */
+    private static final int MOST_CALLS = 512, MOST_CALLS_OF_A_STEP = 255;
     private static int wrong = 0;
     private static long calls = 0;
     private static long seed = 20261116L;
@@ -20,6 +22,9 @@ public final class EndMetersOracle {
         }
         for (int run = 900; run < 960; run++) {
             oneRun(run, 6 + next(5), 10, 10, 60);
+        }
+        for (int run = 960; run < 1000; run++) {
+            oneRun(run, 1 + next(5), 10, 6, MOST_CALLS);
         }
         System.out.println(calls + " calls held against the model, " + wrong + " not as due");
         if (wrong != 0) {
@@ -36,9 +41,10 @@ public final class EndMetersOracle {
         EndMeters meters = new EndMeters();
         Model model = new Model();
         StringBuilder story = new StringBuilder();
+        long before = calls;
         due(run, story, "lines(" + lines + ")", meters.lines(lines), model.lines(lines));
         int[] hidden = hiddenDelays(lines);
-        for (int i = 0; i < length; i++) {
+        for (int i = 0; i < length && calls - before <= MOST_CALLS - MOST_CALLS_OF_A_STEP; i++) {
             if (next(3) > 0) {
                 change(run, story, meters, model, hidden, mostWays, mostOffers);
             } else {
