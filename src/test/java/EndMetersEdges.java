@@ -17,6 +17,10 @@ public final class EndMetersEdges {
     /** Ten WAYS over ten LINES whose determinant, 295, is the lower number of a DELAY too. */
     private static final int[] GREAT_LOWER_NUMBER = {91, 856, 277, 358, 442, 753, 361, 204, 899, 559};
     private static final int[] ITS_SUMS = {73129, 72468, 56536, 73566, 84026, 87871, 73284, 59740, 73557, 84421};
+    /** Ten WAYS over ten LINES; crossed with one another and never divided, they come to numbers that an int wraps to 0. */
+    private static final int[] WRAPPING_OF_RANK_TEN = {648, 5, 427, 966, 776, 474, 183, 760, 399, 483};
+    private static final int[] WRAPPING_OF_RANK_NINE = {910, 339, 1021, 199, 917, 242, 527, 526, 85, 413};
+    private static final int[] WRAPPING_WITHOUT_KNOWN = {573, 892, 577, 422, 403, 77, 643, 711, 865, 437};
     /** Ten WAYS over five LINES, nearly every five of which leave a SOLUTION, but no six. */
     private static final int[] MANY_LIARS = {17, 18, 26, 14, 23, 1, 15, 20, 7, 28};
     private static final int[] THEIR_SUMS = {107, 107, 155, 158, 200, 52, 207, 109, 152, 155};
@@ -351,6 +355,9 @@ public final class EndMetersEdges {
         net(2, 3, 0).dueInTurn("known", 0, 0).dueInTurn("settled", 1, 1);
         net(4, 3, 5, 12, 5, 5, 10).due(0, "count", 6).due(4, "count", 5);
         netWithout(0, MOST, GREATEST_DETERMINANT, new int[MOST]).due(MOST, "count", 6).due(1, "known", 0).due(1, "known", 9);
+        netWithout(0, MOST, WRAPPING_OF_RANK_TEN, new int[MOST]).due(MOST, "count", 6);
+        netWithout(0, MOST, WRAPPING_OF_RANK_NINE, new int[MOST]).dueInTurn("known", 1, 0, 0, 0, 0, 0, 0, 0, 0, 0);
+        netWithout(0, MOST, WRAPPING_WITHOUT_KNOWN, new int[MOST]).due(0, "count", 6);
 
         says("so that it is SETTLED whatever the SUMS are, if there is a SOLUTION");
         Probe x = net(2, 3, 4, 1, 4).dueInTurn("known", 1, 1).dueInTurn("settled", 1, 1);
@@ -366,6 +373,9 @@ public final class EndMetersEdges {
         // Of remainders by 2 these three would be two.
         net(3, 3, 0, 6, 0, 5, 0).due(3, "count", 3);
         netWithout(0, MOST, GREATEST_DETERMINANT, new int[MOST]).due(MOST, "count", 3).does("on", 9, 0).due(9, "count", 3);
+        netWithout(0, MOST, WRAPPING_OF_RANK_TEN, new int[MOST]).due(MOST, "count", 3);
+        netWithout(0, MOST, WRAPPING_OF_RANK_NINE, new int[MOST]).due(9, "count", 3);
+        netWithout(0, MOST, WRAPPING_WITHOUT_KNOWN, new int[MOST]).due(9, "count", 3);
         Probe x = withLines(MOST);
         for (int k = 0; k < MOST; k++) {
             x.does("way", 1 << k, 0).due(k + 1, "count", 3);
@@ -431,6 +441,8 @@ public final class EndMetersEdges {
         x = offers(MOST, 1, 2, 4, 8, 16, 32, 64, 128, 256, 512).due(1023, "advice", 1023).due(512, "advice", 512);
         x.does("way", 1023, 1).due(511, "advice", 1023).does("on", 0, 0).due(1023, "advice", 1023);
         offers(MOST, GREATEST_DETERMINANT).due(1023, "advice", 1023);
+        offers(MOST, WRAPPING_OF_RANK_TEN).due(1023, "advice", 1023);
+        offers(MOST, WRAPPING_WITHOUT_KNOWN).due(NONE, "advice", 1).due(NONE, "advice", 512).due(NONE, "advice", 1023);
 
         says("of several the least number");
         offers(1, 1, 1, 1).due(1, "advice", 1);
@@ -448,6 +460,8 @@ public final class EndMetersEdges {
     private static void sickSets() {
         says("SICK: SETS of LINES, as few as can be");
         badWays(4, 3, 5, 9).dueList("sick", 1);
+        badWays(3, 5, 6).dueList("sick", 4);
+        badWays(MOST, 513, 514, 516, 520, 528, 544, 576, 640, 768).dueList("sick", 512);
         badWays(4, 3, 12).dueList("sick", 5, 6, 9, 10);
         badWays(MOST, 1023).dueList("sick", 1, 2, 4, 8, 16, 32, 64, 128, 256, 512);
         badWays(MOST, 1, 2, 4, 8, 16, 32, 64, 128, 256, 512).dueList("sick", 1023);
@@ -457,6 +471,8 @@ public final class EndMetersEdges {
         badWays(2, 1, 2).dueList("sick", 3).does("on", 1, 0).dueList("sick", 1).does("on", 0, 0).dueList("sick", 0);
 
         says("and none that is ON and GOOD is");
+        net(2, 1, 1, 3, 1).does("bad", 1, 1).dueList("sick", 2).does("on", 0, 0).dueList("sick", 1, 2);
+        oneBadOfTen().dueList("sick", 512);
         net(2, 3, 1).dueList("sick", 0).does("way", 1, 1).does("bad", 0, 1).dueList("sick", 2);
         Probe x = badWays(2, 3).does("way", 3, 1).dueList("sick").does("on", 1, 0).dueList("sick", 1, 2);
         x.does("on", 1, 1).does("over", 1, 1).dueList("sick", 2).does("bad", 1, 1).dueList("sick", 1);
@@ -475,6 +491,15 @@ public final class EndMetersEdges {
         }
         Probe.must(three.size() == 57, "57 SETS of three");
         badWays(MOST, MANY_SICK).dueList("sick", longs(three));
+    }
+
+    /** Nine GOOD WAYS clear all LINES of the BAD one but the last. */
+    private static Probe oneBadOfTen() {
+        Probe x = withLines(MOST);
+        for (int w = 0; w < MOST - 1; w++) {
+            x.does("way", 1 << w, 1);
+        }
+        return x.does("way", 1023, 1).does("bad", MOST - 1, 1);
     }
 
     private static void duePair(int n, int a, int b, int both, long... shares) {

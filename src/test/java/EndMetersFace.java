@@ -2,10 +2,15 @@ import java.lang.reflect.Constructor;
 import java.lang.reflect.Field;
 import java.lang.reflect.Method;
 import java.lang.reflect.Modifier;
+import java.util.Arrays;
+import java.util.Comparator;
 import java.util.Set;
 import java.util.TreeSet;
 
-/** The face is the document's and nothing else, and calls make no objects: a run's room is small. */
+/**
+ * The face is the document's and nothing else; calls make no objects, as a run's room is small; and no call
+ * throws, whatever the numbers and however many calls there were.
+ */
 public final class EndMetersFace {
     private static final String[] FACE = {
         "int lines(int)", "int way(int,int)", "int sum(int,int)", "int over(int,int)", "int on(int,boolean)",
@@ -19,7 +24,8 @@ public final class EndMetersFace {
     public static void main(String[] args) throws Exception {
         checkFace();
         checkRoom();
-        System.out.println(wrong == 0 ? "the face is the document's, calls make no objects" : wrong + " faults");
+        checkNothingIsThrown();
+        System.out.println(wrong == 0 ? "the face is the document's, calls make no objects and throw nothing" : wrong + " faults");
         if (wrong != 0) {
             System.exit(1);
         }
@@ -105,6 +111,36 @@ public final class EndMetersFace {
         some[0] = new EndMeters();
         made = bean.getCurrentThreadAllocatedBytes() - before - empty;
         must(made < 30000, "an object is small, but " + made + " bytes were made");
+    }
+
+    private static int wild(int turn) {
+        int[] numbers = {0, 1, 2, 3, 4, 5, 6, 7, 8, 9, 10, 11, 15, 31, 32, 33, 64, 1022, 1023, 1024, 100000, 100001, 1000000,
+            1000001, -1, -2, -10, -32, -1024, Integer.MIN_VALUE, Integer.MIN_VALUE + 1, Integer.MAX_VALUE, Integer.MAX_VALUE - 1};
+        long mixed = (turn + 1) * 6364136223846793005L;
+        return numbers[(int) ((mixed >>> 33) % numbers.length)];
+    }
+
+    /** One that is thrown ends the test by itself. Far more calls than an object is promised to answer. */
+    private static void checkNothingIsThrown() throws Exception {
+        EndMeters x = new EndMeters();
+        Method[] methods = EndMeters.class.getDeclaredMethods();
+        Arrays.sort(methods, Comparator.comparing(Method::toString));
+        int turn = 0;
+        for (int call = 0; call < 200000; call++) {
+            Method method = methods[(call * 31 + call / 977) % methods.length];
+            if (Modifier.isPublic(method.getModifiers())) {
+                Object[] arguments = new Object[method.getParameterCount()];
+                for (int i = 0; i < arguments.length; i++) {
+                    int number = wild(turn++);
+                    if (method.getParameterTypes()[i] == boolean.class) {
+                        arguments[i] = number % 2 == 0;
+                    } else {
+                        arguments[i] = number;
+                    }
+                }
+                method.invoke(x, arguments);
+            }
+        }
     }
 
     private static void useAll(EndMeters x) {

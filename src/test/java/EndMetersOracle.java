@@ -94,8 +94,8 @@ public final class EndMetersOracle {
         int w = someOf(m.ways.size());
         int set = someSet(m);
         int sum = someSum(set, hidden);
-        boolean is = next(2) == 0;
-        switch (next(11)) {
+        boolean is;
+        switch (next(12)) {
             case 0, 1, 2, 3:
                 if (m.ways.size() < mostWays || mostWays == 10) {
                     due(run, story, "way(" + set + ", " + sum + ")", x.way(set, sum), m.way(set, sum));
@@ -112,15 +112,17 @@ public final class EndMetersOracle {
                 is = next(3) > 0;
                 due(run, story, "on(" + w + ", " + is + ")", x.on(w, is), m.on(w, is));
                 break;
-            case 7:
+            case 7, 8:
+                // Among many GOOD WAYS no SICK SET would be left to tell apart.
+                is = next(6) > 0;
                 due(run, story, "bad(" + w + ", " + is + ")", x.bad(w, is), m.bad(w, is));
                 break;
-            case 8:
+            case 9:
                 if (next(3) == 0) {
                     due(run, story, "back()", x.back(), m.back());
                 }
                 break;
-            case 9:
+            case 10:
                 if (m.offers.size() < mostOffers || mostOffers == 10) {
                     due(run, story, "offer(" + set + ")", x.offer(set), m.offer(set));
                 }
@@ -136,7 +138,7 @@ public final class EndMetersOracle {
         int end = next(30) == 0 ? new int[] {-1, 2, Integer.MIN_VALUE}[next(3)] : next(2);
         int set = next(20) == 0 ? 0 : someSet(m);
         int k = someOf(m.lines);
-        switch (next(12)) {
+        switch (next(13)) {
             case 0:
                 int w = someOf(m.ways.size());
                 int of = next(6) - 1;
@@ -170,9 +172,40 @@ public final class EndMetersOracle {
             case 10:
                 askAll(run, story, "sick", x, m);
                 break;
+            case 11:
+                askPair(run, story, x, what);
+                break;
             default:
                 due(run, story, "advice(" + set + ")", x.advice(set), m.advice(set));
         }
+    }
+
+    private static void askPair(int run, StringBuilder story, EndMeters x, int what) {
+        int most = new int[] {3, 30, 1000000, 1000001}[next(4)];
+        int n = next(most + 1);
+        int a = next(n + 1) + (next(20) == 0 ? 1 : 0);
+        int b = next(n + 1) - (next(20) == 0 ? 1 : 0);
+        int both = next(8) == 0 ? next(most + 2) - 1 : next(Math.max(1, Math.min(a, b) + 1));
+        int part = next(20) == 0 ? new int[] {-1, 3, Integer.MIN_VALUE}[next(3)] : next(3);
+        due(run, story, "pair(" + n + ", " + a + ", " + b + ", " + both + ", " + part + ", " + what + ")",
+                x.pair(n, a, b, both, part, what), pairDue(n, a, b, both, part, what));
+    }
+
+    private static long pairDue(int n, int a, int b, int both, int part, int what) {
+        for (int number : new int[] {n, a, b, both}) {
+            if (number < 0 || number > 1000000) {
+                return -102;
+            }
+        }
+        if (both > a || both > b || a > n || b > n || part < 0 || part > 2 || what < 0 || what > 1) {
+            return -102;
+        }
+        if (both == 0) {
+            return -103;
+        }
+        Part common = new Part(a, 1).times(new Part(b, 1)).over(new Part(n, 1)).over(new Part(both, 1));
+        Part share = part == 0 ? common : part == 1 ? Part.of(both, b) : Part.of(both, a);
+        return what == 0 ? share.upper() : share.lower();
     }
 
     private static void askAll(int run, StringBuilder story, String call, EndMeters x, Model m) {
