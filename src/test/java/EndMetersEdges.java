@@ -126,6 +126,8 @@ public final class EndMetersEdges {
         lastCallDue(1, "pair", 4, 2, 2, 1, 0, 1);
         lastCallDue(UNKNOWN, "told", 3, 0);
         dearCallsToTheLast();
+        changesToTheLast();
+        changesBeforeTheLast();
     }
 
     /** The DELAYS are 6, 4, 3 before the last call, after a hundred changes and as many ways back. */
@@ -148,6 +150,29 @@ public final class EndMetersEdges {
             x.due(1022, "advice", 1023).due(1, "sick", NONE);
         }
         x.due(0, "fits").due(STATE, "count", 5).due(1, "count", 3).due(10, "count", 1).due(10, "count", 8);
+        Probe.must(x.calls() == Probe.MOST_CALLS, "the test has come to the last call");
+    }
+
+    /** Every other call is a change, and the next one shows it: the DELAYS of LINES 1 and 2 are not below 0 up to a SUM of 16. */
+    private static void changesToTheLast() {
+        Probe x = net(3, 3, 2, 6, 7, 5, 9);
+        int before = 2;
+        for (int turn = 0; turn < 254; turn++) {
+            int sum = 2 + turn * 2 % 18;
+            x.due(before, "sum", 0, sum).due(sum > 16 ? STATE : (sum + 2) / 2, "bound", 1, 0, 0);
+            before = sum;
+        }
+        Probe.must(x.calls() == Probe.MOST_CALLS, "the test has come to the last call");
+    }
+
+    /** Nearly all calls are changes. */
+    private static void changesBeforeTheLast() {
+        Probe x = net(1, 1, 0, 1, 0);
+        for (int turn = 0; turn < 502; turn++) {
+            x.due(turn / 2, "sum", turn % 2, turn / 2 + 1);
+        }
+        x.due(1, "fits").due(251, "sum", 0, 252).due(0, "fits").due(2, "lying", NONE);
+        x.due(251, "sum", 1, 252).due(1, "lying", NONE).due(1, "settled", 0);
         Probe.must(x.calls() == Probe.MOST_CALLS, "the test has come to the last call");
     }
 
@@ -346,6 +371,11 @@ public final class EndMetersEdges {
         net(3, 3, 1, 6, 1, 5, 1).dueInTurn("settled", 1, 1, 1).due(3, "count", 5).does("on", 0, 0).dueInTurn("settled", 0, 0, 0);
         net(4, 3, 5, 12, 5, 5, 10).dueInTurn("settled", 1, 1, 1, 1).does("sum", 2, 9).dueInTurn("settled", 0, 0, 0, 0);
         netWithout(0, MOST, GREAT_LOWER_NUMBER, ITS_SUMS).due(MOST, "count", 5).due(1, "settled", 9);
+        // The same DELAYS at both ends, though reached by other LINES.
+        net(4, 13, 2, 3, 1, 10, 3).dueInTurn("settled", 1, 1, 1, 1).due(4, "count", 5);
+        // The same upper number at both ends, but not the same lower one.
+        net(4, 12, 1, 10, 2, 7, 2).dueBound(8, 0, 1, 2).dueBound(8, 1, 1, 1).dueInTurn("settled", 0, 0, 0, 0).due(0, "count", 5);
+        net(4, 12, 2, 10, 3, 7, 3).dueBound(8, 0, 1, 1).dueBound(8, 1, 2, 1).dueInTurn("settled", 0, 0, 0, 0).due(0, "count", 5);
         withLines(MOST).due(0, "count", 5).due(0, "settled", 0).due(0, "settled", 9);
 
         says("KNOWN by some WAYS, if whole numbers or fractions times these, put together, are just this LINE");
@@ -569,6 +599,7 @@ public final class EndMetersEdges {
         Probe x = new Probe();
         new Probe().does("lines", 9).does("way", 1, 1).does("offer", 1);
         x.dueInTurn("count", 4, 0, 0, 0, 0, 0, 0, 1, 0);
+        twoObjectsInTurn();
 
         says("Promise 2: n LINES; no WAYS, no OFFERS any more: how many LINES there were");
         for (int n : new int[] {1, 9, MOST}) {
@@ -617,6 +648,21 @@ public final class EndMetersEdges {
         for (int w : Probe.beyond(0, 9)) {
             x.due(UNKNOWN, "told", w, 0).due(UNKNOWN, "told", w, 3);
         }
+    }
+
+    /** Two nets with the same SETS, but with other SUMS, OFFERS and BAD WAYS. */
+    private static void twoObjectsInTurn() {
+        Probe x = net(3, 3, 10, 6, 7, 5, 9).does("offer", 1);
+        Probe y = net(3, 3, 10, 6, 7, 5, 20).does("bad", 0, 1).does("bad", 2, 1);
+        for (int turn = 0; turn < 3; turn++) {
+            x.due(1, "fits").dueList("lying", 0).dueBound(1, 0, 6, 1).due(3, "count", 5).dueShown(7, 0, 1, 4, 1);
+            y.due(0, "fits").dueList("lying", 1, 2, 4).due(STATE, "bound", 1, 0, 0).due(STATE, "count", 5).due(STATE, "settled", 1);
+            x.due(1, "settled", 1).dueList("sick", 0).due(1, "count", 8).due(0, "advice", 7);
+            y.dueList("sick", 1).due(0, "count", 8).due(UNKNOWN, "offered", 0, 1);
+        }
+        x.does("on", 0, 0).due(1, "advice", 7).due(3, "count", 1);
+        y.due(0, "advice", 7).due(3, "count", 2).does("lines", 2);
+        x.due(3, "count", 0).dueBound(1, 0, 2, 1).dueBound(1, 1, 9, 1);
     }
 
     private static void promiseOfCount() {

@@ -2,14 +2,20 @@ import java.lang.reflect.Constructor;
 import java.lang.reflect.Field;
 import java.lang.reflect.Method;
 import java.lang.reflect.Modifier;
+import java.nio.file.Files;
+import java.nio.file.Path;
+import java.util.ArrayList;
 import java.util.Arrays;
 import java.util.Comparator;
+import java.util.List;
 import java.util.Set;
 import java.util.TreeSet;
+import java.util.regex.Matcher;
+import java.util.regex.Pattern;
 
 /**
  * The face is the document's and nothing else; calls make no objects, as a run's room is small; and no call
- * throws, whatever the numbers and however many calls there were.
+ * throws, whatever the numbers and however many calls there were. Run it in the project's folder.
  */
 public final class EndMetersFace {
     private static final String[] FACE = {
@@ -19,10 +25,18 @@ public final class EndMetersFace {
         "int group(int)", "int lying(int)", "int offer(int)", "int offered(int,int)", "int advice(int)",
         "int sick(int)", "long pair(int,int,int,int,int,int)", "EndMeters()",
         "NONE=-1", "UNKNOWN=-101", "OUTSIDE=-102", "STATE=-103", "FULL=-104", "ENDLESS=-105"};
+    /** The calls in the document's order, and what the interface says ahead of them. */
+    private static final String[] SECTIONS = {
+        "---- the net", "lines", "way", "sum", "over", "on", "bad", "back", "told", "count",
+        "---- what lies within", "fits", "bound", "shown", "settled", "known", "group",
+        "---- meters that lie, ways to add", "lying", "offer", "offered", "advice",
+        "---- sick lines, shares", "sick", "pair"};
     private static int wrong = 0;
 
     public static void main(String[] args) throws Exception {
         checkFace();
+        checkSections();
+        checkNothingIsShared();
         checkRoom();
         checkNothingIsThrown();
         System.out.println(wrong == 0 ? "the face is the document's, calls make no objects and throw nothing" : wrong + " faults");
@@ -76,6 +90,30 @@ public final class EndMetersFace {
             must(Modifier.isStatic(inside.getModifiers()), inside + " is static");
             for (Method method : inside.getDeclaredMethods()) {
                 must(!publicNames.contains(method.getName()), "a name of its own: " + method);
+            }
+        }
+    }
+
+    private static void checkSections() throws Exception {
+        String source = Files.readString(Path.of("src/main/java/EndMeters.java"));
+        List<String> found = new ArrayList<>();
+        Matcher part = Pattern.compile("    // (---- .*)|    public (?:int|long) (\\w+)\\(.*").matcher("");
+        for (String line : source.split("\n")) {
+            if (part.reset(line).matches()) {
+                found.add(part.group(1) != null ? part.group(1) : part.group(2));
+            }
+        }
+        must(found.equals(List.of(SECTIONS)), "the calls and what stands ahead of them: " + found);
+    }
+
+    /** What belongs to all objects never changes. */
+    private static void checkNothingIsShared() {
+        List<Class<?>> classes = new ArrayList<>(List.of(EndMeters.class.getDeclaredClasses()));
+        classes.add(EndMeters.class);
+        for (Class<?> one : classes) {
+            for (Field field : one.getDeclaredFields()) {
+                boolean isConstant = Modifier.isFinal(field.getModifiers()) && field.getType().isPrimitive();
+                must(!Modifier.isStatic(field.getModifiers()) || isConstant, "shared by all objects: " + field);
             }
         }
     }
